@@ -56,7 +56,8 @@ public final class TreeStream {
     private final Reader front = new Reader(MOST_ELEMENTS);
     private final Reader behind = new Reader(MOST_BETWEEN);
     private final Ways ways = new Ways();
-    private final Search search = new Search(front, behind, draft);
+    private final Scout scout = new Scout();
+    private final Search search = new Search(front, behind, scout, draft);
     private final Safety safety = new Safety();
 
     public TreeStream() {
@@ -209,11 +210,11 @@ public final class TreeStream {
         if (m == null || register < 0 || register >= m.registers || i < NONE) {
             return NONE;
         }
-        int step = reading.layingWith(d);
-        if (step == NONE) {
+        int cell = reading.layingWith(d);
+        if (cell == NONE) {
             return NONE;
         }
-        return i == NONE ? reading.sizeOf(step, register) : reading.signOf(step, register, i);
+        return i == NONE ? reading.sizeOf(cell, register) : reading.signOf(cell, register, i);
     }
 
     public int finish() {
@@ -241,7 +242,11 @@ public final class TreeStream {
     public int through(int a, int b) {
         Machine one = told(a);
         Machine two = told(b);
-        if (one == null || two == null || !bothRead(one, two)) {
+        if (one == null || two == null || front.refusal(one, given) != NONE) {
+            return NONE;
+        }
+        front.write();
+        if (!behind.readBehind(two, front)) {
             return NONE;
         }
         behind.write();
@@ -260,7 +265,11 @@ public final class TreeStream {
         if (one == null || two == null) {
             return NONE;
         }
-        return bothRead(one, two) ? 1 : 0;
+        if (front.refusal(one, given) != NONE) {
+            return 0;
+        }
+        front.write();
+        return scout.canReadBehind(two, front) ? 1 : 0;
     }
 
     public int peak(int k) {
@@ -325,14 +334,6 @@ public final class TreeStream {
             given.become(draft);
         }
         return elements;
-    }
-
-    private boolean bothRead(Machine one, Machine two) {
-        if (front.refusal(one, given) != NONE) {
-            return false;
-        }
-        front.write();
-        return behind.canReadBehind(two, front);
     }
 
     private Machine told(int k) {
@@ -492,16 +493,19 @@ public final class TreeStream {
 
         /** To which STATE the OPEN RULE goes; NONE: there is no such RULE. */
         int opensTo(int letter, int state) {
-            return at(openTo, letter * MOST_STATES + state);
+            int i = letter * MOST_STATES + state;
+            return i >= 0 && i < openTo.length ? openTo[i] : NONE;
         }
 
         int lays(int letter, int state) {
-            return at(openLays, letter * MOST_STATES + state);
+            int i = letter * MOST_STATES + state;
+            return i >= 0 && i < openLays.length ? openLays[i] : NONE;
         }
 
         /** To which STATE the CLOSE RULE goes; NONE: there is no such RULE. */
         int closesTo(int laid, int state) {
-            return at(closeTo, laid * MOST_STATES + state);
+            int i = laid * MOST_STATES + state;
+            return i >= 0 && i < closeTo.length ? closeTo[i] : NONE;
         }
 
         /** The first EXPRESSION of a CLOSE RULE; those of the REGISTERS behind 0 follow it. */
@@ -864,13 +868,15 @@ public final class TreeStream {
         private static final int HELD = 2;
         private static final int MOST = 3;
 
-        /** The step at which the last MARK's OPEN came, NONE without one; what that laid. */
+        /** Where the cells begin that the last MARK's OPEN found, NONE without one; what it laid. */
         private static final int UNDER = 4;
         private static final int LAID = 5;
         private static final int USED = 6;
 
         /** Three cells for each REGISTER: first node, last node, how many. */
         private static final int ROWS = 7;
+        private static final int LAST = 1;
+        private static final int SIZE = 2;
         private static final int ROW_WIDTH = 3;
         private static final int WIDTH = ROWS + ROW_WIDTH * MOST_REGISTERS;
 
@@ -904,7 +910,7 @@ public final class TreeStream {
         }
 
         int now(int what) {
-            return get(came, what);
+            return at(cells, came * WIDTH + what);
         }
 
         int opens() {
@@ -913,57 +919,65 @@ public final class TreeStream {
 
         /** False, and nothing changes: REFUSED. */
         boolean step(int sign) {
-            if (machine == null || (came + 2) * WIDTH > cells.length) {
-                return false;
-            }
-            used = now(USED);
             return sign == CLOSE ? stepOut() : stepIn(sign);
         }
 
         private boolean stepIn(int letter) {
-            int state = now(STATE);
+            int now = came * WIDTH;
+            int next = now + WIDTH;
+            if (machine == null || now < 0 || next + WIDTH > cells.length) {
+                return false;
+            }
+            int state = cells[now + STATE];
             int to = machine.opensTo(letter, state);
             if (to == NONE) {
                 return false;
             }
-            clearRow();
-            for (int r = 0; r < machine.registers; r++) {
-                setRow(came + 1, r);
+            cells[next + STATE] = to;
+            cells[next + DEPTH] = cells[now + DEPTH] + 1;
+            cells[next + HELD] = cells[now + HELD];
+            cells[next + MOST] = cells[now + MOST];
+            cells[next + UNDER] = now;
+            cells[next + LAID] = machine.lays(letter, state);
+            cells[next + USED] = cells[now + USED];
+            for (int row = ROWS; row < WIDTH; row += ROW_WIDTH) {
+                cells[next + row + SIZE] = 0;
             }
-            setTop(to, now(DEPTH) + 1, came, machine.lays(letter, state), now(HELD));
             came++;
             return true;
         }
 
         private boolean stepOut() {
-            int state = now(STATE);
-            int under = now(UNDER);
-            int laid = now(LAID);
-            int to = under == NONE ? NONE : machine.closesTo(laid, state);
-            if (to == NONE) {
+            int now = came * WIDTH;
+            int next = now + WIDTH;
+            if (machine == null || now < 0 || next + WIDTH > cells.length) {
                 return false;
             }
-            int tells = machine.closeTells(laid, state);
-            int held = now(HELD);
-            for (int r = 0; r < machine.registers; r++) {
-                putTogether(tells + r, under);
-                setRow(came + 1, r);
-                held += (size - sizeOf(came, r) - sizeOf(under, r)) / 2;
+            int under = cells[now + UNDER];
+            int to = machine.closesTo(cells[now + LAID], cells[now + STATE]);
+            if (under < 0 || under >= now || to == NONE) {
+                return false;
             }
-            setTop(to, now(DEPTH) - 1, get(under, UNDER), get(under, LAID), held);
+            cells[next + STATE] = to;
+            cells[next + DEPTH] = cells[under + DEPTH];
+            cells[next + UNDER] = cells[under + UNDER];
+            cells[next + LAID] = cells[under + LAID];
+            int tells = machine.closeTells(cells[now + LAID], cells[now + STATE]);
+            int held = cells[now + HELD];
+            used = cells[now + USED];
+            for (int r = 0; r < machine.registers && r < MOST_REGISTERS; r++) {
+                int row = ROWS + ROW_WIDTH * r;
+                putTogether(tells + r, now, under);
+                cells[next + row] = first;
+                cells[next + row + LAST] = last;
+                cells[next + row + SIZE] = size;
+                held += (size - cells[now + row + SIZE] - cells[under + row + SIZE]) / 2;
+            }
+            cells[next + HELD] = held;
+            cells[next + MOST] = Math.max(cells[now + MOST], held);
+            cells[next + USED] = used;
             came++;
             return true;
-        }
-
-        private void setTop(int state, int depth, int under, int laid, int held) {
-            int i = (came + 1) * WIDTH;
-            put(cells, i + STATE, state);
-            put(cells, i + DEPTH, depth);
-            put(cells, i + UNDER, under);
-            put(cells, i + LAID, laid);
-            put(cells, i + HELD, held);
-            put(cells, i + MOST, Math.max(get(came, MOST), held));
-            put(cells, i + USED, used);
         }
 
         void stepBack() {
@@ -980,7 +994,7 @@ public final class TreeStream {
         void write() {
             if (canEnd()) {
                 used = now(USED);
-                putTogether(machine.endTells(now(STATE)), came);
+                putTogether(machine.endTells(now(STATE)), came * WIDTH, came * WIDTH);
             }
         }
 
@@ -995,8 +1009,8 @@ public final class TreeStream {
             return canEnd() ? NONE : events.size();
         }
 
-        /** Whether a MACHINE can READ what another reader wrote. */
-        boolean canReadBehind(Machine m, Reader other) {
+        /** READ BEHIND another reader, that wrote: false: REFUSED. */
+        boolean readBehind(Machine m, Reader other) {
             start(m);
             int node = other.first;
             for (int i = 0; i < other.size; i++) {
@@ -1024,54 +1038,39 @@ public final class TreeStream {
             return true;
         }
 
-        /** The step whose REGISTERS lie with the d-th MARK from the last; d NONE: the latest one. */
+        /** Where the cells begin of what lies with the d-th MARK from the last; d NONE: of what is now. */
         int layingWith(int d) {
             if (d < NONE || d >= now(DEPTH)) {
                 return NONE;
             }
-            int step = came;
+            int cell = came * WIDTH;
             for (int i = 0; i <= d; i++) {
-                step = get(step, UNDER);
+                cell = at(cells, cell + UNDER);
             }
-            return step;
+            return cell;
         }
 
-        int sizeOf(int step, int register) {
-            return get(step, ROWS + ROW_WIDTH * register + 2);
+        int sizeOf(int cell, int register) {
+            return at(cells, cell + ROWS + ROW_WIDTH * register + SIZE);
         }
 
-        int signOf(int step, int register, int i) {
-            if (i < 0 || i >= sizeOf(step, register)) {
+        int signOf(int cell, int register, int i) {
+            if (i < 0 || i >= sizeOf(cell, register)) {
                 return NONE;
             }
-            int node = get(step, ROWS + ROW_WIDTH * register);
+            int node = at(cells, cell + ROWS + ROW_WIDTH * register);
             for (int j = 0; j < i; j++) {
                 node = at(links, node);
             }
             return at(signs, node);
         }
 
-        private int get(int step, int what) {
-            int i = step * WIDTH + what;
-            return i >= 0 && i < cells.length ? cells[i] : NONE;
-        }
-
-        private void clearRow() {
+        /** What an EXPRESSION tells, of x that stands in the cells from now on and y from under on. */
+        private void putTogether(int expression, int now, int under) {
+            int stop = at(machine.starts, expression + 1);
             first = NONE;
             last = NONE;
             size = 0;
-        }
-
-        private void setRow(int step, int register) {
-            int i = step * WIDTH + ROWS + ROW_WIDTH * register;
-            put(cells, i, first);
-            put(cells, i + 1, last);
-            put(cells, i + 2, size);
-        }
-
-        private void putTogether(int expression, int under) {
-            int stop = at(machine.starts, expression + 1);
-            clearRow();
             for (int i = at(machine.starts, expression); i < stop; i++) {
                 int sign = at(machine.signs, i);
                 if (sign < X) {
@@ -1079,17 +1078,16 @@ public final class TreeStream {
                     join(used, used, 1);
                     used++;
                 } else {
-                    int row = (sign < Y ? came : under) * WIDTH + ROWS + ROW_WIDTH * (sign & 3);
-                    join(at(cells, row), at(cells, row + 1), at(cells, row + 2));
+                    int row = (sign < Y ? now : under) + ROWS + ROW_WIDTH * (sign & 3);
+                    if (row >= 0 && row + SIZE < cells.length && cells[row + SIZE] > 0) {
+                        join(cells[row], cells[row + LAST], cells[row + SIZE]);
+                    }
                 }
             }
         }
 
-        /** Nodes come behind the row that is put together. */
+        /** A chain of nodes comes behind the row that is put together. */
         private void join(int from, int to, int many) {
-            if (many <= 0) {
-                return;
-            }
             if (size == 0) {
                 first = from;
             } else if (last >= 0 && last < links.length) {
@@ -1097,6 +1095,30 @@ public final class TreeStream {
             }
             last = to;
             size += many;
+        }
+    }
+
+    /** Whether a MACHINE can READ what a reader wrote, by STATES and MARKS alone: no row is put together. */
+    private static final class Scout {
+        private final int[] stack = new int[MOST_BETWEEN];
+
+        boolean canReadBehind(Machine m, Reader writer) {
+            int state = 0;
+            int depth = 0;
+            int node = writer.first;
+            for (int i = 0; i < writer.size && state != NONE; i++) {
+                int sign = at(writer.signs, node);
+                node = at(writer.links, node);
+                if (sign == CLOSE) {
+                    depth--;
+                    state = m.closesTo(at(stack, depth), state);
+                } else {
+                    put(stack, depth, m.lays(sign, state));
+                    depth++;
+                    state = m.opensTo(sign, state);
+                }
+            }
+            return state != NONE && m.endTells(state) != NONE;
         }
     }
 
@@ -1278,14 +1300,16 @@ public final class TreeStream {
 
         private final Reader front;
         private final Reader behind;
+        private final Scout scout;
         private final Events path;
         private Machine second;
         private boolean spoiling;
         private int opens;
 
-        Search(Reader front, Reader behind, Events path) {
+        Search(Reader front, Reader behind, Scout scout, Events path) {
             this.front = front;
             this.behind = behind;
+            this.scout = scout;
             this.path = path;
         }
 
@@ -1371,7 +1395,7 @@ public final class TreeStream {
                 return false;
             }
             front.write();
-            return !behind.canReadBehind(second, front);
+            return !scout.canReadBehind(second, front);
         }
 
         private boolean different() {
@@ -1386,130 +1410,209 @@ public final class TreeStream {
         }
     }
 
-    /**
-     * Whether a first MACHINE never SPOILS for a second one. Of a row that a REGISTER holds, only
-     * this matters: from which STATE to which the second MACHINE comes by it. So the first MACHINE
-     * has few THINGS that can be behind a row of ELEMENTS: the STATE at the row's begin, the STATE
-     * at its end, and what each REGISTER is to the second MACHINE. All are found, pair by pair.
-     */
-    private static final class Safety {
-        /** What a row is: two bits for each STATE of the second MACHINE. */
+    /** What rows of ELEMENTS are to a MACHINE of two STATES: to which STATE it comes by one, from each. */
+    private static final class Kinds {
+        /** A kind has two bits for each STATE; LOST is for a row that can't be READ from there. */
         private static final int LOST = 2;
         private static final int SAME = 4;
-        private static final int BOTH_SAME = SAME + (SAME << 4);
-        private static final int THINGS = 1 << 12;
+        private static final int BITS = 4;
+        private static final int KINDS = 1 << BITS;
+
+        private final int[] joined = new int[KINDS * KINDS];
+        private final int[] around = new int[LETTERS * KINDS];
+
+        Kinds() {
+            for (int one = 0; one < KINDS; one++) {
+                for (int two = 0; two < KINDS; two++) {
+                    int kind = to(two, to(one, 0)) + (to(two, to(one, 1)) << 2);
+                    joined[one * KINDS + two] = kind;
+                }
+            }
+        }
+
+        static int to(int kind, int state) {
+            return state == 0 || state == 1 ? (kind >> (2 * state)) & 3 : LOST;
+        }
+
+        /** From now on it is about ELEMENTS to this MACHINE. */
+        void learn(Machine m) {
+            for (int letter = 0; letter < LETTERS; letter++) {
+                for (int kind = 0; kind < KINDS; kind++) {
+                    int first = passing(m, letter, kind, 0);
+                    put(around, letter * KINDS + kind, first + (passing(m, letter, kind, 1) << 2));
+                }
+            }
+        }
+
+        private static int passing(Machine m, int letter, int within, int state) {
+            int in = m.opensTo(letter, state);
+            int last = in == NONE ? LOST : to(within, in);
+            int out = last == LOST ? NONE : m.closesTo(m.lays(letter, state), last);
+            return out == NONE ? LOST : out;
+        }
+
+        /** Of a row and another one behind it. */
+        int join(int one, int two) {
+            int i = one * KINDS + two;
+            return i >= 0 && i < joined.length ? joined[i] : NONE;
+        }
+
+        /** Of one ELEMENT with a row within. */
+        int wrap(int letter, int kind) {
+            return at(around, letter * KINDS + kind);
+        }
+    }
+
+    /**
+     * Whether a first MACHINE never SPOILS for a second one. Of a row that a REGISTER holds, its kind
+     * alone matters. So there are few SIGHTS that the first MACHINE can offer behind a row of ELEMENTS:
+     * the STATE at the row's begin, the STATE at its end, the kind that each REGISTER holds then. All
+     * that can be are found: by each two of them, one within an ELEMENT that comes behind the other.
+     */
+    private static final class Safety {
+        private static final int BOTH_SAME = Kinds.SAME + (Kinds.SAME << Kinds.BITS);
+        private static final int STATE_BIT = Kinds.BITS * SAFE_REGISTERS;
+        private static final int BEGIN_BIT = STATE_BIT + 2;
+        private static final int SIGHTS = 1 << (BEGIN_BIT + 2);
+
+        /** Nine kinds for each of two REGISTERS. */
         private static final int MOST_FOUND = SAFE_STATES * SAFE_STATES * 81;
 
-        private final boolean[] known = new boolean[THINGS];
+        private final Kinds kinds = new Kinds();
+        private final boolean[] known = new boolean[SIGHTS];
         private final int[] found = new int[MOST_FOUND];
-        private final int[] stack = new int[MOST_OWN];
         private int many;
+
+        /** Chains of those that were paired: the latest of each begin and of each STATE, and the one ahead of each. */
+        private final int[] latestOfBegin = new int[SAFE_STATES];
+        private final int[] latestOfState = new int[SAFE_STATES];
+        private final int[] aheadByBegin = new int[MOST_FOUND];
+        private final int[] aheadByState = new int[MOST_FOUND];
+
+        private final int[] stack = new int[MOST_OWN];
+        private final int[] letters = new int[MOST_OWN];
         private Machine one;
         private Machine two;
 
         boolean neverSpoils(Machine a, Machine b) {
-            one = a;
-            two = b;
-            many = 0;
-            for (int i = 0; i < known.length; i++) {
-                known[i] = false;
-            }
+            start(a, b);
             note(0, 0, BOTH_SAME);
             for (int i = 0; i < many && i < MOST_FOUND; i++) {
-                int thing = at(found, i);
-                if (spoilsAtEnd(thing)) {
+                int sight = at(found, i);
+                if (spoilsAtEnd(sight)) {
                     return false;
                 }
-                enterFrom(stateOf(thing));
-                for (int j = 0; j <= i; j++) {
-                    nest(thing, at(found, j));
-                    nest(at(found, j), thing);
-                }
+                put(aheadByBegin, i, at(latestOfBegin, beginOf(sight)));
+                put(latestOfBegin, beginOf(sight), i);
+                asOuter(sight);
+                asInner(sight);
+                put(aheadByState, i, at(latestOfState, stateOf(sight)));
+                put(latestOfState, stateOf(sight), i);
             }
             return true;
         }
 
-        private static int beginOf(int thing) {
-            return thing >> 10;
+        private void start(Machine a, Machine b) {
+            one = a;
+            two = b;
+            kinds.learn(b);
+            many = 0;
+            for (int i = 0; i < known.length; i++) {
+                known[i] = false;
+            }
+            Arrays.fill(latestOfBegin, NONE);
+            Arrays.fill(latestOfState, NONE);
         }
 
-        private static int stateOf(int thing) {
-            return (thing >> 8) & 3;
+        private static int beginOf(int sight) {
+            return sight >> BEGIN_BIT;
+        }
+
+        private static int stateOf(int sight) {
+            return (sight >> STATE_BIT) & 3;
         }
 
         private void note(int begin, int state, int registers) {
-            int thing = (begin << 10) + (state << 8) + registers;
-            if (thing >= 0 && thing < known.length && !known[thing]) {
-                known[thing] = true;
-                put(found, many, thing);
+            int sight = (begin << BEGIN_BIT) + (state << STATE_BIT) + registers;
+            if (sight >= 0 && sight < known.length && !known[sight]) {
+                known[sight] = true;
+                put(found, many, sight);
                 many++;
             }
         }
 
-        /** Within an ELEMENT a row begins with REGISTERS that hold none. */
-        private void enterFrom(int state) {
+        /** Within an ELEMENT behind it: each that was paired, itself too, and the one of no ELEMENTS. */
+        private void asOuter(int outer) {
             for (int letter = 0; letter < LETTERS; letter++) {
-                int in = one.opensTo(letter, state);
+                int in = one.opensTo(letter, stateOf(outer));
                 if (in != NONE) {
                     note(in, in, BOTH_SAME);
-                }
-            }
-        }
-
-        /** An ELEMENT comes behind the outer row, with the inner row within. */
-        private void nest(int outer, int inner) {
-            for (int letter = 0; letter < LETTERS; letter++) {
-                if (one.opensTo(letter, stateOf(outer)) == beginOf(inner)) {
                     int laid = one.lays(letter, stateOf(outer));
-                    int to = one.closesTo(laid, stateOf(inner));
-                    if (to != NONE) {
-                        int tells = one.closeTells(laid, stateOf(inner));
-                        note(beginOf(outer), to, registersBy(tells, outer, inner));
+                    int i = at(latestOfBegin, in);
+                    for (int steps = 0; i != NONE && steps < MOST_FOUND; steps++) {
+                        nest(outer, at(found, i), laid);
+                        i = at(aheadByBegin, i);
                     }
                 }
             }
         }
 
-        private int registersBy(int tells, int outer, int inner) {
-            int registers = BOTH_SAME;
-            for (int r = 0; r < one.registers; r++) {
-                int what = land(tells + r, outer, inner, 0) + (land(tells + r, outer, inner, 1) << 2);
-                registers = (registers & ~(15 << (4 * r))) | (what << (4 * r));
+        /** Ahead of an ELEMENT that it is within: each that was paired. */
+        private void asInner(int inner) {
+            for (int state = 0; state < one.states; state++) {
+                for (int letter = 0; letter < LETTERS; letter++) {
+                    if (one.opensTo(letter, state) == beginOf(inner)) {
+                        int laid = one.lays(letter, state);
+                        int i = at(latestOfState, state);
+                        for (int steps = 0; i != NONE && steps < MOST_FOUND; steps++) {
+                            nest(at(found, i), inner, laid);
+                            i = at(aheadByState, i);
+                        }
+                    }
+                }
             }
-            return registers;
         }
 
-        private boolean spoilsAtEnd(int thing) {
-            int tells = one.endTells(stateOf(thing));
-            if (beginOf(thing) != 0 || tells == NONE) {
+        private void nest(int outer, int inner, int laid) {
+            int to = one.closesTo(laid, stateOf(inner));
+            if (to == NONE) {
+                return;
+            }
+            int tells = one.closeTells(laid, stateOf(inner));
+            int second = one.registers == 1 ? Kinds.SAME : kindOf(tells + 1, outer, inner);
+            note(beginOf(outer), to, kindOf(tells, outer, inner) + (second << Kinds.BITS));
+        }
+
+        private boolean spoilsAtEnd(int sight) {
+            int tells = one.endTells(stateOf(sight));
+            if (beginOf(sight) != 0 || tells == NONE) {
                 return false;
             }
-            int last = land(tells, thing, thing, 0);
-            return last == LOST || two.endTells(last) == NONE;
+            int last = Kinds.to(kindOf(tells, sight, sight), 0);
+            return last == Kinds.LOST || two.endTells(last) == NONE;
         }
 
-        /** To which STATE the second MACHINE comes by what an EXPRESSION tells, or LOST. */
-        private int land(int expression, int outer, int inner, int from) {
-            int state = from;
+        /** The kind of what an EXPRESSION tells, x of the inner one and y of the outer one. */
+        private int kindOf(int expression, int outer, int inner) {
+            int kind = Kinds.SAME;
             int depth = 0;
             int stop = at(one.starts, expression + 1);
-            for (int i = at(one.starts, expression); i < stop && state != LOST; i++) {
+            for (int i = at(one.starts, expression); i < stop; i++) {
                 int sign = at(one.signs, i);
-                int to;
                 if (sign < CLOSE) {
-                    put(stack, depth, two.lays(sign, state));
+                    put(stack, depth, kind);
+                    put(letters, depth, sign);
                     depth++;
-                    to = two.opensTo(sign, state);
+                    kind = Kinds.SAME;
                 } else if (sign == CLOSE) {
                     depth--;
-                    to = two.closesTo(at(stack, depth), state);
+                    kind = kinds.join(at(stack, depth), kinds.wrap(at(letters, depth), kind));
                 } else {
-                    int row = (sign < Y ? inner : outer) >> (4 * (sign & 3));
-                    to = (row >> (2 * state)) & 3;
+                    int from = sign < Y ? inner : outer;
+                    kind = kinds.join(kind, (from >> (Kinds.BITS * (sign & 3))) & (Kinds.KINDS - 1));
                 }
-                state = to == NONE ? LOST : to;
             }
-            return state;
+            return kind;
         }
     }
 }
