@@ -288,7 +288,7 @@ final class Model {
         }
         String[] texts = new String[many];
         for (int i = 0; i < many; i++) {
-            texts[i] = rows[i] + Check.repeated(">", depths[i]);
+            texts[i] = rows[i] + ">".repeat(depths[i]);
         }
         return texts;
     }
@@ -308,6 +308,6 @@ final class Model {
                 i++;
             }
         }
-        return row + Check.repeated(">", depth);
+        return row + ">".repeat(depth);
     }
 }

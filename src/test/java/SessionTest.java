@@ -81,7 +81,7 @@ public final class SessionTest {
             }
             boolean fits = tape.length() + 20 <= 600;
             if (fits) {
-                tape += (text + Check.repeated(" ", 20)).substring(i, i + 20);
+                tape += (text + " ".repeat(20)).substring(i, i + 20);
             }
             due("feed", x.feed(numbers[0], numbers[1], numbers[2], numbers[3], numbers[4]), fits ? tape.length() : NONE);
         }
@@ -95,7 +95,7 @@ public final class SessionTest {
 
     private void tapeCalls() {
         if (random.nextBoolean()) {
-            feed(Check.repeated("<a> ", 5));
+            feed("<a> ".repeat(5));
         }
         cut(random.nextInt(4) == 0 ? random.nextInt(700) - 50 : tape.length() / 20 * 20);
         if (random.nextInt(3) == 0) {
