@@ -419,6 +419,7 @@ public final class MachinesTest {
         check.due("READ, " + a, x.refused(0), NONE);
         check.due("not READ BEHIND, " + b, x.ahead(0, 1), 0);
         check.due("safe, " + a + " | " + b, x.safe(0, 1), 0);
+        check.due("safe once more", x.safe(0, 1), 0);
     }
 
     private static void spoiltPairs() {

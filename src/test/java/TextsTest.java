@@ -243,6 +243,22 @@ public final class TextsTest {
             check.due("run", x.run(k), i % 3 == 0 ? 6 : 2);
             check.due("OUT", Check.shown(x, true), i % 3 == 0 ? Check.nested("a", 6) : "<b<c>>");
         }
+        insteadOfLarge();
+    }
+
+    private static void insteadOfLarge() {
+        StringBuilder text = new StringBuilder("machine 2 1;open a 0 1 5");
+        for (int i = 0; i < 14; i++) {
+            text.append(";close ").append("cba".charAt(i / 6)).append(" 1 ").append(i % 6).append(" 0=<a><a><a><a><a><a>x0y0");
+        }
+        String large = text.substring(0, text.lastIndexOf(";")) + ";close a 1 5 0=y0<b<c><a><c>><b>;end 0=x0<c>";
+        TreeStream x = new TreeStream();
+        for (int i = 0; i < 8; i++) {
+            check.due("machine", Check.tell(x, 0, large), 16);
+        }
+        Check.give(x, "<a><a>");
+        check.due("run", x.run(0), 11);
+        check.due("OUT", Check.shown(x, true), "<b<c><a><c>><b><b<c><a><c>><b><c>");
     }
 
     private static void howManyRules() {
